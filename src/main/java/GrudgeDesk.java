@@ -1129,14 +1129,10 @@ public final class GrudgeDesk {
             System.arraycopy(ways[wayCount], 0, ways[way], 0, Game.MOST_PEOPLE);
         }
 
+        /** Not brought to lowest terms: two ways are dropped at most ahead of the last, so all stays small. */
         private void bend(int w, int by, long change, long step) {
-            long divisor = 0;
             for (int p = 0; p < Game.MOST_PEOPLE; p++) {
                 ways[w][p] = ways[w][p] * step - ways[by][p] * change;
-                divisor = Fractions.commonDivisor(divisor, ways[w][p]);
-            }
-            for (int p = 0; p < Game.MOST_PEOPLE && divisor > 1; p++) {
-                ways[w][p] /= divisor;
             }
         }
     }

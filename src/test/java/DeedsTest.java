@@ -140,6 +140,9 @@ public final class DeedsTest {
         Check.worths("dual of two", x, 12, 4, 9);
         Check.due("one behind the other", Check.deeds(x, "people 2;worth ab 5;dual;zero;worth a 1"), 5);
         Check.worths("one behind the other", x, 1, 0, -5);
+        x = Check.desk(3, 1, 20, 30, 4, 50, 60, 100);
+        Check.due("dual;zero", Check.deeds(x, "dual;zero"), 2);
+        Check.worths("dual;zero", x, 0, 0, 6, 0, -30, -21, -60);
         x = Check.desk(3, 1, 2, 3, 4, 5, 6, 7);
         x.stages();
         Check.deeds(x, "worth abc 999");

@@ -134,11 +134,16 @@ public final class FaceTest {
         String source = Files.readString(Path.of("src/main/java/GrudgeDesk.java"));
         String code = source.replaceAll("(?s)/\\*.*?\\*/", "").replaceAll("//.*", "");
         String[] ruledOut = {"\\bthrow\\b", "\\bthrows\\b", "\\btry\\b", "\\bcatch\\b", "\\bsynchronized\\b",
-            "\\bassert\\b", "->", "::", "\\bpackage\\b", "\\bimport\\b", "Exact\\b", "\\bdouble\\b", "\\bfloat\\b",
-            "\\bnull\\b", "\\bwhile\\b", "\\bnew \\w+\\(.*\\{", "Thread", "System\\.(?!arraycopy)", "Random"};
+            "\\bassert\\b", "->", "::", "\\bpackage\\b", "Exact\\b", "\\bnew \\w+\\(.*\\{", "Thread",
+            "System\\.(?!arraycopy)", "Random"};
         for (String word : ruledOut) {
             Matcher found = Pattern.compile(word).matcher(code);
             Check.holds("no " + word + " in the source", !found.find());
+        }
+        for (String line : code.split("\n")) {
+            boolean makes = line.contains("new ");
+            Check.holds("only fields make objects: " + line,
+                    !makes || line.matches(" +(private )?final [\\w\\[\\]]+ \\w+ = new .*;"));
         }
         Check.holds("signs 1 to 127", source.chars().allMatch(sign -> sign > 0 && sign < 128));
         Check.holds("no method of over sixty lines", longestMethod(source) <= 60);

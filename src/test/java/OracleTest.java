@@ -1,3 +1,4 @@
+import java.math.BigInteger;
 import java.util.Arrays;
 import java.util.Random;
 
@@ -12,7 +13,7 @@ public final class OracleTest {
         for (int turn = 0; turn < 400; turn++) {
             holdAgainst(3, reach(turn));
         }
-        int most = args.length > 0 ? Integer.parseInt(args[0]) : 150;
+        int most = args.length > 0 ? Integer.parseInt(args[0]) : 400;
         for (int turn = 0; turn < most; turn++) {
             holdAgainst(4, reach(turn));
         }
@@ -50,6 +51,12 @@ public final class OracleTest {
         Check.fraction(what, top, bottom, want.above.longValueExact(), want.below.longValueExact());
     }
 
+    /** Not in lowest terms: over a number below the line that is told. */
+    private static void ratio(String what, long top, long bottom, Oracle.Ratio want, BigInteger below) {
+        long wantTop = want.above.multiply(below).divide(want.below).longValueExact();
+        Check.fraction(what, top, bottom, wantTop, below.longValueExact());
+    }
+
     private static void stages(String what, GrudgeDesk x, Oracle oracle) {
         Check.due(what + " stages", x.stages(), oracle.levels.size());
         for (int k = 1; k <= oracle.levels.size(); k++) {
@@ -66,6 +73,16 @@ public final class OracleTest {
     private static void shares(String what, GrudgeDesk x, Oracle oracle) {
         for (int p = 0; p < oracle.n; p++) {
             ratio(what + " fair " + p, x.fair(p, 0), x.fair(p, 1), oracle.fair[p]);
+        }
+        x.list(0, oracle.n + 1);
+        Check.due(what + " lay", x.lay(0, 0), oracle.n + 1);
+        BigInteger least = BigInteger.ONE;
+        for (Oracle.Ratio share : oracle.fair) {
+            least = least.multiply(share.below).divide(least.gcd(share.below));
+        }
+        Check.due(what + " least D", x.get(0, 0), least.longValueExact());
+        for (int p = 0; p < oracle.n; p++) {
+            ratio(what + " laid " + p, x.get(0, p + 1), x.get(0, 0), oracle.fair[p], least);
         }
         Integer[] order = new Integer[oracle.all - 1];
         for (int g = 1; g < oracle.all; g++) {

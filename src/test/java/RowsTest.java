@@ -15,12 +15,12 @@ public final class RowsTest {
             Check.due("list", x.list(list, 30), 1);
             for (int i = 0; i < 30; i++) {
                 Check.due("all 0", x.get(list, i), 0);
-                Check.due("set", x.set(list, i, 100 * list + i), 1);
+                Check.due("set", x.set(list, i, 100 * list + i + 1), 1);
             }
         }
         for (int list = 0; list < 4; list++) {
             for (int i = 0; i < 30; i++) {
-                Check.due("each its own", x.get(list, i), 100 * list + i);
+                Check.due("each its own", x.get(list, i), 100 * list + i + 1);
             }
         }
         x.set(0, 3, Long.MIN_VALUE + 1);
@@ -28,7 +28,9 @@ public final class RowsTest {
         x.set(0, 3, Long.MAX_VALUE);
         Check.due("a long above", x.get(0, 3), Long.MAX_VALUE);
         Check.due("made anew", x.list(0, 5), 1);
-        Check.due("all 0 again", x.get(0, 3), 0);
+        for (int i = 0; i < 5; i++) {
+            Check.due("all 0 again", x.get(0, i), 0);
+        }
         Check.due("behind its end", x.get(0, 5), Check.NO);
         x.list(0, 30);
         Check.due("longer again, all 0", x.get(0, 29), 0);

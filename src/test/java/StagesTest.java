@@ -17,6 +17,10 @@ public final class StagesTest {
     }
 
     private static void allZero() {
+        GrudgeDesk fresh = new GrudgeDesk();
+        Check.fraction("new: fair", fresh.fair(2, 0), fresh.fair(2, 1), 0, 1);
+        Check.due("new: stages", fresh.stages(), 1);
+        Check.due("new: fixed", fresh.fixed(1), 126);
         for (int n = 2; n <= 4; n++) {
             GrudgeDesk x = Check.desk(n);
             int parts = (1 << (1 << n) - 1) - 2;

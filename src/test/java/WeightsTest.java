@@ -5,6 +5,7 @@ public final class WeightsTest {
         twoAndFour();
         tilted();
         complaints();
+        leastCollections();
         Check.end("WeightsTest");
     }
 
@@ -66,6 +67,77 @@ public final class WeightsTest {
         Check.due("a alone: b is the first", x.tilts(0, 0), 1);
         Check.row(x, 0, 0, 0, 1, 0, 0, 0);
         Check.due("ab alone: c is the first", x.tilts(0, 0), 2);
+    }
+
+    /** Each least balanced collection in its turn is made the one that decides level 1 and the cost. */
+    private static void leastCollections() {
+        int[] counts = {1, 5, 41};
+        for (int n = 2; n <= 4; n++) {
+            int all = (1 << n) - 1;
+            int found = 0;
+            // supports in order of size, so that a lesser one within is known when it matters
+            boolean[] balanced = new boolean[1 << all];
+            for (int size = 2; size <= n; size++) {
+                for (int set = 2; set < 1 << all; set += 2) {
+                    long[] weights = Integer.bitCount(set) == size ? balance(set, all, balanced) : null;
+                    if (weights != null) {
+                        balanced[set] = true;
+                        found++;
+                        decides(n, set, weights);
+                    }
+                }
+            }
+            Check.due("least collections of " + n, found, counts[n - 2]);
+        }
+    }
+
+    /** Weights 1 to 2 are enough for four people; null, if none balance or a lesser collection does. */
+    private static long[] balance(int set, int all, boolean[] balanced) {
+        for (int within = (set - 1) & set; within > 0; within = (within - 1) & set) {
+            if (balanced[within]) {
+                return null;
+            }
+        }
+        int size = Integer.bitCount(set);
+        for (int choice = 0; choice < 1 << size; choice++) {
+            long[] weights = new long[all - 1];
+            int[] sums = new int[4];
+            int k = 0;
+            for (int g = 1; g < all; g++) {
+                if ((set >> g & 1) == 1) {
+                    weights[g - 1] = 1 + (choice >> k++ & 1);
+                    for (int p = 0; p < 4; p++) {
+                        sums[p] += (g >> p & 1) * (int) weights[g - 1];
+                    }
+                }
+            }
+            if (sums[1] == sums[0] && (all < 7 || sums[2] == sums[0]) && (all < 15 || sums[3] == sums[0])) {
+                return weights;
+            }
+        }
+        return null;
+    }
+
+    private static void decides(int n, int set, long[] weights) {
+        GrudgeDesk x = Check.desk(n);
+        int all = (1 << n) - 1;
+        long top = 0;
+        long total = 0;
+        long c = 0;
+        for (int g = 1; g < all; g++) {
+            x.worth(g, (set >> g & 1) == 1 ? 60 + g : -900);
+            top += weights[g - 1] * (60 + g);
+            total += weights[g - 1];
+            c += (g & 1) * weights[g - 1];
+        }
+        x.worth(all, 7);
+        Check.row(x, 0, weights);
+        String what = "collection " + set + " of " + n;
+        Check.due(what + " balances", x.tilts(0, 0), -5);
+        Check.due(what + " proves level 1", x.proves(0, 0), 1);
+        Check.due(what + " is fixed", x.fixed(1), set);
+        Check.due(what + ": level 1", x.level(1, 0) * total, (top - 7 * c) * x.level(1, 1));
+        Check.due(what + ": cost", x.cost(0) * c, top * x.cost(1));
     }
 
     private static void complaints() {
