@@ -6,8 +6,14 @@ final class Check {
 
     private static int wrong = 0;
     private static int held = 0;
+    private static String context = "";
 
     private Check() {
+    }
+
+    /** What is held from here on is told with these words ahead of it, if it is not as due. */
+    static void under(String words) {
+        context = words + ": ";
     }
 
     static void due(String what, long got, long want) {
@@ -15,7 +21,7 @@ final class Check {
         if (got != want) {
             wrong++;
             if (wrong <= 40) {
-                System.out.println(what + " answered " + got + ", due is " + want);
+                System.out.println(context + what + " answered " + got + ", due is " + want);
             }
         }
     }

@@ -27,14 +27,17 @@ public final class OracleTest {
     }
 
     private static void holdAgainst(int n, int reach) {
-        int all = (1 << n) - 1;
-        int[] v = new int[all + 1];
-        GrudgeDesk x = new GrudgeDesk();
-        x.people(n);
-        for (int g = 1; g <= all; g++) {
+        int[] v = new int[1 << n];
+        for (int g = 1; g < v.length; g++) {
             v[g] = RANDOM.nextInt(2 * reach + 1) - reach;
-            x.worth(g, v[g]);
         }
+        holdAgainst(n, v);
+    }
+
+    /** By the groups' bits; nobody's stays 0. */
+    static void holdAgainst(int n, int[] v) {
+        int all = (1 << n) - 1;
+        GrudgeDesk x = Check.desk(n, Arrays.copyOfRange(v, 1, v.length));
         Oracle oracle = new Oracle(n, v).solve();
         String what = Arrays.toString(v);
         stages(what, x, oracle);
