@@ -90,6 +90,15 @@ final class Edges {
         }
     }
 
+    /** A busy desk with another row in one of its lists. */
+    static Supplier<GrudgeDesk> busyWith(int n, int list, long... row) {
+        return () -> {
+            GrudgeDesk x = busy(n);
+            Check.row(x, list, row);
+            return x;
+        };
+    }
+
     static GrudgeDesk busy() {
         return busy(3);
     }

@@ -57,14 +57,6 @@ final class ShareEdges {
         Check.holds("grudgeBy " + at, x.grudgeBy(list, i, 1, 0) != Check.NO && x.grudgeBy(list, i, 1, 1) > 0);
     }
 
-    private static Supplier<GrudgeDesk> busyWith(int n, int list, long... row) {
-        return () -> {
-            GrudgeDesk x = Edges.busy(n);
-            Check.row(x, list, row);
-            return x;
-        };
-    }
-
     /** D is 1, all have 0; so many numbers. */
     private static long[] zeros(int many) {
         long[] row = new long[many];
@@ -80,7 +72,7 @@ final class ShareEdges {
         }
         refused("nothing there", Edges::busy, 3, 0, Check.NOTHING);
         for (int list = 0; list <= 3; list++) {
-            taken("a list", busyWith(3, list, zeros(4)).get(), list, 0);
+            taken("a list", Edges.busyWith(3, list, zeros(4)).get(), list, 0);
             refused("nothing at first", ShareEdges::withShares, list == 2 ? 3 : list, 0, Check.NOTHING);
         }
     }
@@ -96,11 +88,11 @@ final class ShareEdges {
         refused("a row of 0", Edges::busy, 1, 0, Check.BEYOND);
         for (int n = 2; n <= 4; n++) {
             int people = n;
-            taken("just room for them", busyWith(n, 0, zeros(n + 1)).get(), 0, 0);
-            refused("one place too few", busyWith(n, 0, zeros(n)), 0, 0, Check.BEYOND);
-            refused("one place", busyWith(n, 0, 1), 0, 0, Check.BEYOND);
+            taken("just room for them", Edges.busyWith(n, 0, zeros(n + 1)).get(), 0, 0);
+            refused("one place too few", Edges.busyWith(n, 0, zeros(n)), 0, 0, Check.BEYOND);
+            refused("one place", Edges.busyWith(n, 0, 1), 0, 0, Check.BEYOND);
             for (int i : Edges.outside(0, 0)) {
-                refused("another place", busyWith(n, 0, zeros(n + 1)), 0, i, Check.BEYOND);
+                refused("another place", Edges.busyWith(n, 0, zeros(n + 1)), 0, i, Check.BEYOND);
             }
             Supplier<GrudgeDesk> full = () -> atTheEnd(people);
             taken("the last places of a full row", full.get(), 0, 29 - n);
@@ -127,14 +119,14 @@ final class ShareEdges {
         Edges.sentence(Edges.TERMS, "TOLD SHARES stand in a LIST from a place on: D (1 .. 1000),");
         for (int n = 2; n <= 4; n++) {
             for (long d : new long[] {1, 2, 999, 1000}) {
-                GrudgeDesk x = busyWith(n, 0, zeros(n + 1)).get();
+                GrudgeDesk x = Edges.busyWith(n, 0, zeros(n + 1)).get();
                 x.set(0, 0, d);
                 taken("D " + d, x, 0, 0);
             }
             for (long d : Edges.outside(1L, 1000L)) {
                 long[] row = zeros(n + 1);
                 row[0] = d;
-                refused("D " + d, busyWith(n, 0, row), 0, 0, Check.BAD);
+                refused("D " + d, Edges.busyWith(n, 0, row), 0, 0, Check.BAD);
             }
         }
     }
@@ -144,14 +136,14 @@ final class ShareEdges {
         for (int n = 2; n <= 4; n++) {
             for (int p = 1; p <= n; p++) {
                 for (long v : new long[] {-1000000, -999999, 999999, 1000000}) {
-                    GrudgeDesk x = busyWith(n, 0, zeros(n + 1)).get();
+                    GrudgeDesk x = Edges.busyWith(n, 0, zeros(n + 1)).get();
                     x.set(0, p, v);
                     taken("number " + p + " is " + v, x, 0, 0);
                 }
                 for (long v : Edges.outside(-1000000L, 1000000L)) {
                     long[] row = zeros(n + 1);
                     row[p] = v;
-                    refused("number " + p + " is " + v, busyWith(n, 0, row), 0, 0, Check.BAD);
+                    refused("number " + p + " is " + v, Edges.busyWith(n, 0, row), 0, 0, Check.BAD);
                 }
             }
         }
@@ -171,15 +163,15 @@ final class ShareEdges {
         }
         refused("NOTHING ahead of BEYOND", Edges::busy, 3, -1, Check.NOTHING);
         refused("NOTHING ahead of BEYOND", Edges::busy, 3, 30, Check.NOTHING);
-        refused("BEYOND ahead of BAD, no D", busyWith(3, 0, 0, 0, 0), 0, 0, Check.BEYOND);
-        refused("BEYOND ahead of BAD, too great", busyWith(3, 0, 1, 0, 1000001), 0, 0, Check.BEYOND);
-        refused("BEYOND ahead of BAD, below 0", busyWith(3, 0, 0, 0, 0, 0), 0, -1, Check.BEYOND);
-        refused("a D and a number", busyWith(3, 0, 0, 1000001, 0, 0), 0, 0, Check.BAD);
+        refused("BEYOND ahead of BAD, no D", Edges.busyWith(3, 0, 0, 0, 0), 0, 0, Check.BEYOND);
+        refused("BEYOND ahead of BAD, too great", Edges.busyWith(3, 0, 1, 0, 1000001), 0, 0, Check.BEYOND);
+        refused("BEYOND ahead of BAD, below 0", Edges.busyWith(3, 0, 0, 0, 0, 0), 0, -1, Check.BEYOND);
+        refused("a D and a number", Edges.busyWith(3, 0, 0, 1000001, 0, 0), 0, 0, Check.BAD);
         Edges.sentence(28, "BAD: a number is not as told; NONE: k.");
         for (int k : Edges.outside(0, 5)) {
             Edges.unmoved("NOTHING ahead of k", x -> x.orderedBy(3, 0, k), Check.NOTHING);
             Edges.unmoved("BEYOND ahead of k", x -> x.orderedBy(1, 0, k), Check.BEYOND);
-            Edges.unmoved("BAD ahead of k", busyWith(3, 0, 0, 0, 0, 0), x -> x.orderedBy(0, 0, k), Check.BAD);
+            Edges.unmoved("BAD ahead of k", Edges.busyWith(3, 0, 0, 0, 0, 0), x -> x.orderedBy(0, 0, k), Check.BAD);
             Edges.unmoved("NONE of both", x -> x.orderedBy(4, 0, k), Check.NONE);
         }
     }
@@ -187,7 +179,7 @@ final class ShareEdges {
     /** All that is wrong with the one is answered ahead of what is wrong with the other. */
     private static void betterFirstNamed() {
         Edges.sentence(29, "BAD: a number is not as told (the one ahead).");
-        Supplier<GrudgeDesk> made = busyWith(3, 0, 0, 0, 0, 0);
+        Supplier<GrudgeDesk> made = Edges.busyWith(3, 0, 0, 0, 0, 0);
         int[][] wrong = {{4, 0, Check.NONE}, {3, 0, Check.NOTHING}, {1, 0, Check.BEYOND}, {0, 0, Check.BAD}};
         for (int[] one : wrong) {
             for (int[] other : wrong) {
@@ -206,7 +198,7 @@ final class ShareEdges {
             row[0] = Long.MIN_VALUE;
             row[1] = 1;
             row[n + 2] = Long.MAX_VALUE;
-            taken("what stands ahead and behind is no matter", busyWith(n, 0, row).get(), 0, 1);
+            taken("what stands ahead and behind is no matter", Edges.busyWith(n, 0, row).get(), 0, 1);
         }
     }
 

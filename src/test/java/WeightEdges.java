@@ -50,14 +50,6 @@ final class WeightEdges {
         Check.holds("proof " + at, x.proof(list, i, 0) != Check.NO && x.proof(list, i, 1) > 0);
     }
 
-    private static Supplier<GrudgeDesk> busyWith(int n, int list, long... row) {
-        return () -> {
-            GrudgeDesk x = Edges.busy(n);
-            Check.row(x, list, row);
-            return x;
-        };
-    }
-
     private static long[] all(int many, long weight) {
         long[] row = new long[many];
         Arrays.fill(row, weight);
@@ -70,7 +62,7 @@ final class WeightEdges {
         }
         for (int list = 0; list <= 3; list++) {
             refused("nothing at first", GrudgeDesk::new, list, 0, Check.NOTHING);
-            taken("a list", busyWith(3, list, all(6, 1)).get(), list, 0);
+            taken("a list", Edges.busyWith(3, list, all(6, 1)).get(), list, 0);
         }
     }
 
@@ -78,12 +70,12 @@ final class WeightEdges {
         refused("a row of 0", Edges::busy, 1, 0, Check.BEYOND);
         for (int n = 2; n <= 4; n++) {
             int parts = partsOf(n);
-            taken("just room for them", busyWith(n, 0, all(parts, 1)).get(), 0, 0);
-            refused("one place too few", busyWith(n, 0, all(parts - 1, 1)), 0, 0, Check.BEYOND);
+            taken("just room for them", Edges.busyWith(n, 0, all(parts, 1)).get(), 0, 0);
+            refused("one place too few", Edges.busyWith(n, 0, all(parts - 1, 1)), 0, 0, Check.BEYOND);
             for (int i : Edges.outside(0, 0)) {
-                refused("another place", busyWith(n, 0, all(parts, 1)), 0, i, Check.BEYOND);
+                refused("another place", Edges.busyWith(n, 0, all(parts, 1)), 0, i, Check.BEYOND);
             }
-            Supplier<GrudgeDesk> full = busyWith(n, 0, all(30, 1));
+            Supplier<GrudgeDesk> full = Edges.busyWith(n, 0, all(30, 1));
             taken("the last places of a full row", full.get(), 0, 30 - parts);
             for (int i : new int[] {31 - parts, 29, 30, -1, Integer.MAX_VALUE - parts + 1, Integer.MAX_VALUE,
                     Integer.MIN_VALUE}) {
@@ -102,9 +94,9 @@ final class WeightEdges {
         Edges.sentence(Edges.TERMS, "TOLD WEIGHTS: of PARTS by numbers, each 0 .. 1000.");
         for (int n = 2; n <= 4; n++) {
             int parts = partsOf(n);
-            taken("all 1000", busyWith(n, 0, all(parts, 1000)).get(), 0, 0);
+            taken("all 1000", Edges.busyWith(n, 0, all(parts, 1000)).get(), 0, 0);
             for (int g = 1; g <= parts; g++) {
-                GrudgeDesk x = busyWith(n, 0, all(parts, 1)).get();
+                GrudgeDesk x = Edges.busyWith(n, 0, all(parts, 1)).get();
                 for (long weight : new long[] {0, 1, 999, 1000}) {
                     x.set(0, g - 1, weight);
                     Check.holds("weight " + weight + " of " + g, x.tilts(0, 0) == (weight == 1 ? -5 : firstUnlike(g)));
@@ -113,7 +105,7 @@ final class WeightEdges {
                 for (long weight : Edges.outside(0L, 1000L)) {
                     long[] row = all(parts, 1);
                     row[g - 1] = weight;
-                    refused("weight " + weight + " of " + g, busyWith(n, 0, row), 0, 0, Check.BAD);
+                    refused("weight " + weight + " of " + g, Edges.busyWith(n, 0, row), 0, 0, Check.BAD);
                 }
             }
         }
@@ -136,11 +128,11 @@ final class WeightEdges {
         }
         refused("NOTHING ahead of BEYOND", Edges::busy, 3, -1, Check.NOTHING);
         refused("NOTHING ahead of BEYOND", Edges::busy, 3, 30, Check.NOTHING);
-        refused("BEYOND ahead of BAD, above", busyWith(3, 0, all(5, 1001)), 0, 0, Check.BEYOND);
-        refused("BEYOND ahead of BAD, below", busyWith(3, 0, all(6, -1)), 0, 1, Check.BEYOND);
-        refused("BEYOND ahead of BAD, place below 0", busyWith(3, 0, all(6, -1)), 0, -1, Check.BEYOND);
-        refused("BAD ahead of a tilt", busyWith(3, 0, 1, 0, 0, 0, 0, 1001), 0, 0, Check.BAD);
-        refused("BAD ahead of all 0", busyWith(3, 0, 0, 0, 0, 0, 0, -1), 0, 0, Check.BAD);
+        refused("BEYOND ahead of BAD, above", Edges.busyWith(3, 0, all(5, 1001)), 0, 0, Check.BEYOND);
+        refused("BEYOND ahead of BAD, below", Edges.busyWith(3, 0, all(6, -1)), 0, 1, Check.BEYOND);
+        refused("BEYOND ahead of BAD, place below 0", Edges.busyWith(3, 0, all(6, -1)), 0, -1, Check.BEYOND);
+        refused("BAD ahead of a tilt", Edges.busyWith(3, 0, 1, 0, 0, 0, 0, 1001), 0, 0, Check.BAD);
+        refused("BAD ahead of all 0", Edges.busyWith(3, 0, 0, 0, 0, 0, 0, -1), 0, 0, Check.BAD);
     }
 
     private static void onlyTheirPlaces() {
@@ -150,7 +142,7 @@ final class WeightEdges {
             long[] row = all(parts + 2, 1);
             row[0] = Long.MIN_VALUE;
             row[parts + 1] = Long.MAX_VALUE;
-            taken("what stands ahead and behind is no matter", busyWith(n, 0, row).get(), 0, 1);
+            taken("what stands ahead and behind is no matter", Edges.busyWith(n, 0, row).get(), 0, 1);
         }
     }
 
@@ -177,7 +169,7 @@ final class WeightEdges {
                     for (int r = 0; r < n; r++) {
                         row[(1 << r) - 1] = r == p || r == q ? 999 : 1000;
                     }
-                    GrudgeDesk x = busyWith(n, 0, row).get();
+                    GrudgeDesk x = Edges.busyWith(n, 0, row).get();
                     int want = -5;
                     for (int r = n - 1; r > 0; r--) {
                         want = row[(1 << r) - 1] != row[0] ? r : want;
@@ -188,14 +180,14 @@ final class WeightEdges {
                 }
             }
         }
-        GrudgeDesk x = busyWith(3, 0, 0, 500, 500, 500, 500, 0).get();
+        GrudgeDesk x = Edges.busyWith(3, 0, 0, 500, 500, 500, 500, 0).get();
         Check.due("by two ways at once", x.tilts(0, 0), -5);
         Edges.unmoved("tilts(0, 10)", y -> y.tilts(0, 10), -5);
     }
 
     private static void allZero() {
         for (int n = 2; n <= 4; n++) {
-            Supplier<GrudgeDesk> made = busyWith(n, 0, all(partsOf(n), 0));
+            Supplier<GrudgeDesk> made = Edges.busyWith(n, 0, all(partsOf(n), 0));
             Edges.sentence(34, "-5: they BALANCE; 9: all are 0.");
             Edges.unmoved("tilts of all 0", made, x -> x.tilts(0, 0), 9);
             Edges.sentence(33, "Whether that is LEVEL 1: 1, 0 (also if they don't BALANCE).");
