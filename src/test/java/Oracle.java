@@ -1,4 +1,3 @@
-import java.math.BigInteger;
 import java.util.ArrayList;
 import java.util.Arrays;
 import java.util.List;
@@ -8,59 +7,6 @@ import java.util.List;
  * corners of the shares by which the greatest grudge is least.
  */
 final class Oracle {
-    /** A fraction in lowest terms, below above 0. */
-    static final class Ratio implements Comparable<Ratio> {
-        static final Ratio ZERO = of(0), ONE = of(1);
-        final BigInteger above, below;
-
-        private Ratio(BigInteger above, BigInteger below) {
-            BigInteger g = above.gcd(below);
-            if (below.signum() < 0) {
-                g = g.negate();
-            }
-            this.above = above.divide(g);
-            this.below = below.divide(g);
-        }
-
-        static Ratio of(long v) {
-            return new Ratio(BigInteger.valueOf(v), BigInteger.ONE);
-        }
-
-        static Ratio of(long above, long below) {
-            return new Ratio(BigInteger.valueOf(above), BigInteger.valueOf(below));
-        }
-
-        Ratio plus(Ratio o) {
-            return new Ratio(above.multiply(o.below).add(o.above.multiply(below)), below.multiply(o.below));
-        }
-
-        Ratio minus(Ratio o) {
-            return new Ratio(above.multiply(o.below).subtract(o.above.multiply(below)), below.multiply(o.below));
-        }
-
-        Ratio times(Ratio o) {
-            return new Ratio(above.multiply(o.above), below.multiply(o.below));
-        }
-
-        Ratio by(Ratio o) {
-            return new Ratio(above.multiply(o.below), below.multiply(o.above));
-        }
-
-        boolean isZero() {
-            return above.signum() == 0;
-        }
-
-        @Override
-        public int compareTo(Ratio o) {
-            return above.multiply(o.below).compareTo(o.above.multiply(below));
-        }
-
-        @Override
-        public String toString() {
-            return above + "/" + below;
-        }
-    }
-
     final int n;
     final int all;
     final int[] v;

@@ -1,4 +1,3 @@
-import java.math.BigInteger;
 import java.util.Arrays;
 import java.util.Random;
 
@@ -43,21 +42,15 @@ public final class OracleTest {
         stages(what, x, oracle);
         shares(what, x, oracle);
         turns(what, x, oracle);
-        Oracle.Ratio cost = oracle.cost();
+        Ratio cost = oracle.cost();
         ratio(what + " cost", x.cost(0), x.cost(1), cost);
-        Check.due(what + " empty", x.empty(), oracle.levels.get(0).compareTo(Oracle.Ratio.ZERO) > 0 ? 1 : 0);
-        Check.due(what + " empty by cost", x.empty(), cost.compareTo(Oracle.Ratio.of(v[all])) > 0 ? 1 : 0);
+        Check.due(what + " empty", x.empty(), oracle.levels.get(0).compareTo(Ratio.ZERO) > 0 ? 1 : 0);
+        Check.due(what + " empty by cost", x.empty(), cost.compareTo(Ratio.of(v[all])) > 0 ? 1 : 0);
         whatIf(what, x, v, n);
     }
 
-    private static void ratio(String what, long top, long bottom, Oracle.Ratio want) {
-        Check.fraction(what, top, bottom, want.above.longValueExact(), want.below.longValueExact());
-    }
-
-    /** Not in lowest terms: over a number below the line that is told. */
-    private static void ratio(String what, long top, long bottom, Oracle.Ratio want, BigInteger below) {
-        long wantTop = want.above.multiply(below).divide(want.below).longValueExact();
-        Check.fraction(what, top, bottom, wantTop, below.longValueExact());
+    private static void ratio(String what, long top, long bottom, Ratio want) {
+        Check.fraction(what, top, bottom, want.above(), want.below());
     }
 
     private static void stages(String what, GrudgeDesk x, Oracle oracle) {
@@ -79,13 +72,11 @@ public final class OracleTest {
         }
         x.list(0, oracle.n + 1);
         Check.due(what + " lay", x.lay(0, 0), oracle.n + 1);
-        BigInteger least = BigInteger.ONE;
-        for (Oracle.Ratio share : oracle.fair) {
-            least = least.multiply(share.below).divide(least.gcd(share.below));
-        }
-        Check.due(what + " least D", x.get(0, 0), least.longValueExact());
+        long least = Ratio.commonBelow(oracle.fair);
+        Check.due(what + " least D", x.get(0, 0), least);
         for (int p = 0; p < oracle.n; p++) {
-            ratio(what + " laid " + p, x.get(0, p + 1), x.get(0, 0), oracle.fair[p], least);
+            Ratio share = oracle.fair[p];
+            Check.due(what + " laid " + p, x.get(0, p + 1), share.above() * (least / share.below()));
         }
         Integer[] order = new Integer[oracle.all - 1];
         for (int g = 1; g < oracle.all; g++) {
@@ -98,10 +89,10 @@ public final class OracleTest {
         }
         for (int p = 0; p < oracle.n; p++) {
             for (int q = 0; q < oracle.n; q++) {
-                Oracle.Ratio greatest = null;
+                Ratio greatest = null;
                 for (int g = 1; g < oracle.all; g++) {
                     if ((g >> p & 1) == 1 && (g >> q & 1) == 0) {
-                        Oracle.Ratio grudge = oracle.grudge(oracle.fair, g);
+                        Ratio grudge = oracle.grudge(oracle.fair, g);
                         greatest = greatest == null || grudge.compareTo(greatest) > 0 ? grudge : greatest;
                     }
                 }
@@ -116,7 +107,7 @@ public final class OracleTest {
         long[] sums = new long[oracle.n];
         int orders = allComing(new int[oracle.n], 0, 0, oracle, sums);
         for (int p = 0; p < oracle.n; p++) {
-            ratio(what + " byTurns " + p, x.byTurns(p, 0), x.byTurns(p, 1), Oracle.Ratio.of(sums[p], orders));
+            ratio(what + " byTurns " + p, x.byTurns(p, 0), x.byTurns(p, 1), Ratio.of(sums[p], orders));
         }
     }
 
