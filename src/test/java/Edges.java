@@ -1,7 +1,9 @@
 import java.io.IOException;
 import java.nio.file.Files;
 import java.nio.file.Path;
+import java.util.Map;
 import java.util.Set;
+import java.util.TreeMap;
 import java.util.TreeSet;
 import java.util.function.Supplier;
 import java.util.function.ToLongFunction;
@@ -20,29 +22,52 @@ final class Edges {
     private static final String TAPE = "more ab 5;swap a b";
     private static final int FULL_ROW = 30;
 
-    private static final Set<String> QUOTES = new TreeSet<>();
-    private static final Set<Integer> PROMISES = new TreeSet<>();
+    private static final int PROMISES = 39;
+
+    /** By the promise. */
+    private static final Map<Integer, Set<String>> QUOTES = new TreeMap<>();
 
     private Edges() {
     }
 
     /** What follows tests this sentence, told in the document's own words. */
     static void sentence(int promise, String words) {
-        QUOTES.add(words);
-        PROMISES.add(promise);
+        QUOTES.computeIfAbsent(promise, key -> new TreeSet<>()).add(words);
         Check.under("\"" + words + "\"");
     }
 
-    /** Every promise has been tested, and all words that were told as the document's are. */
+    /** All words that were told as a promise's own, or as the terms', are, and none of them is left untested. */
     static void allSaid() throws IOException {
         Check.under("the sentences");
         String document = Files.readString(Path.of("../shared/DOC.md"));
-        for (String words : QUOTES) {
-            Check.holds("the document says: " + words, document.contains(words));
+        for (int promise = TERMS; promise <= PROMISES; promise++) {
+            Set<String> quotes = QUOTES.getOrDefault(promise, Set.of());
+            String section = sectionOf(document, promise);
+            for (String words : quotes) {
+                Check.holds("promise " + promise + " says: " + words, section.contains(words));
+            }
+            String left = untested(section, quotes);
+            Check.holds("tests of all of promise " + promise + ", not without: " + left, left.isEmpty());
         }
-        for (int promise = TERMS; promise <= 39; promise++) {
-            Check.holds("edges of promise " + promise, PROMISES.contains(promise));
+    }
+
+    private static String sectionOf(String document, int promise) {
+        int from = document.indexOf(promise == TERMS ? "## What it is" : "## Promise " + promise + ":");
+        int to = document.indexOf(promise == PROMISES ? "## Not promised" : "## Promise " + (promise + 1) + ":");
+        return document.substring(from, to);
+    }
+
+    /** Words of a section that no quote has; without headings, the face, and what the interface calls its parts. */
+    private static String untested(String section, Set<String> quotes) {
+        StringBuilder left = new StringBuilder(section);
+        for (String words : quotes) {
+            for (int at = section.indexOf(words); at >= 0; at = section.indexOf(words, at + 1)) {
+                left.replace(at, at + words.length(), " ".repeat(words.length()));
+            }
         }
+        return left.toString().replaceAll("(?s)^## What it is.*## Terms", "")
+                .replaceAll("(?m)^(##|```|Ahead of the calls).*$", "").replaceAll("(?m)^`.*?`:|^==== [0-9]", "")
+                .replaceAll("\\s+", " ").replaceAll("^\\W+$", "");
     }
 
     /** The first that are not taken on both sides, those that wrap around to one that is, the last that there are. */

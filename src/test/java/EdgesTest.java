@@ -1,6 +1,6 @@
 import java.io.IOException;
 
-/** The edges of all promises: a test for each sentence of the document that names one. */
+/** The edges of all promises and terms: a test for each sentence of the document. */
 public final class EdgesTest {
     public static void main(String[] args) throws IOException {
         DeskEdges.all();
@@ -11,6 +11,7 @@ public final class EdgesTest {
         WeightEdges.all();
         RowEdges.all();
         AnswerEdges.all();
+        TermEdges.all();
         Edges.allSaid();
         Check.end("EdgesTest");
     }
