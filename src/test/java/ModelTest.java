@@ -1,4 +1,3 @@
-import java.lang.reflect.Method;
 import java.util.ArrayList;
 import java.util.Arrays;
 import java.util.HashMap;
@@ -65,7 +64,6 @@ public final class ModelTest {
         "tilts 1 2 3 9 -5 -1 -2 -11 -13", "list 1 -1 -2 -14", "set 1 -1 -11 -13", "image 2 3 4", "undo 2 3 4 -3"};
 
     private static final Map<String, Set<Long>> SEEN = new HashMap<>();
-    private static final Map<String, Method[]> METHODS = new HashMap<>();
 
     private final Random random;
     private final int run;
@@ -87,8 +85,8 @@ public final class ModelTest {
         Check.end("ModelTest");
     }
 
-    private static void allCame() {
-        Check.due("calls of the face", METHODS.size(), CALLS.length);
+    private static void allCame() throws ReflectiveOperationException {
+        Check.holds("all calls of the face came", SEEN.keySet().equals(Calls.names()));
         for (String due : DUE_TO_COME) {
             String[] words = due.split(" ");
             for (int k = 1; k < words.length; k++) {
@@ -96,10 +94,9 @@ public final class ModelTest {
                         SEEN.get(words[0]).contains(Long.parseLong(words[k])));
             }
         }
-        for (String name : METHODS.keySet()) {
-            boolean isLong = METHODS.get(name)[0].getReturnType() == long.class;
-            Check.holds(name + " answered NO, and more than ten others",
-                    !isLong || SEEN.get(name).contains(Check.NO) && SEEN.get(name).size() > 11);
+        for (String name : SEEN.keySet()) {
+            Check.holds(name + " answered NO, and more than ten others", !Calls.answersLong(name)
+                    || SEEN.get(name).contains(Check.NO) && SEEN.get(name).size() > 11);
         }
     }
 
@@ -125,35 +122,15 @@ public final class ModelTest {
     }
 
     /** The call on both; beyond the 512th there is none. */
-    private long call(String name, long... numbers) throws ReflectiveOperationException {
+    private void call(String name, long... numbers) throws ReflectiveOperationException {
         if (calls == MOST_CALLS) {
-            return 0;
+            return;
         }
         calls++;
-        Method[] both = METHODS.computeIfAbsent(name, ModelTest::find);
-        Object[] arguments = new Object[numbers.length];
-        for (int k = 0; k < numbers.length; k++) {
-            boolean isLong = both[0].getParameterTypes()[k] == long.class;
-            arguments[k] = isLong ? (Object) numbers[k] : (Object) (int) numbers[k];
-        }
-        long got = ((Number) both[0].invoke(desk, arguments)).longValue();
-        long want = ((Number) both[1].invoke(model, arguments)).longValue();
+        long got = Calls.answer(desk, name, numbers);
+        long want = Calls.answer(model, name, numbers);
         Check.due("run " + run + ", call " + calls + ": " + name + Arrays.toString(numbers), got, want);
         SEEN.computeIfAbsent(name, key -> new TreeSet<>()).add(want);
-        return want;
-    }
-
-    private static Method[] find(String name) {
-        for (Method method : GrudgeDesk.class.getDeclaredMethods()) {
-            if (method.getName().equals(name)) {
-                try {
-                    return new Method[] {method, Model.class.getMethod(name, method.getParameterTypes())};
-                } catch (NoSuchMethodException e) {
-                    throw new IllegalStateException(e);
-                }
-            }
-        }
-        throw new IllegalStateException("no call " + name);
     }
 
     private void anyCall() throws ReflectiveOperationException {

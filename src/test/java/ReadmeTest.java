@@ -1,6 +1,4 @@
 import java.io.IOException;
-import java.lang.reflect.Method;
-import java.lang.reflect.Modifier;
 import java.nio.file.Files;
 import java.nio.file.Path;
 import java.util.List;
@@ -44,7 +42,7 @@ public final class ReadmeTest {
                 called.add("feed");
             } else if (isCode && call.matches()) {
                 long want = call.group(3).equals("NO") ? Check.NO : Long.parseLong(call.group(3));
-                Check.due(line, answer(desk, call.group(1), call.group(2)), want);
+                Check.due(line, Calls.answer(desk, call.group(1), numbers(call.group(2))), want);
                 called.add(call.group(1));
             } else if (isCode) {
                 Check.holds("a line that can be tried: " + line, line.isEmpty());
@@ -53,33 +51,11 @@ public final class ReadmeTest {
         return called;
     }
 
-    private static long answer(GrudgeDesk desk, String name, String numbers) throws ReflectiveOperationException {
-        String[] words = numbers.isEmpty() ? new String[0] : numbers.split(", ");
-        Method method = named(name);
-        Object[] arguments = new Object[words.length];
-        for (int k = 0; k < words.length; k++) {
-            boolean isLong = method.getParameterTypes()[k] == long.class;
-            arguments[k] = isLong ? (Object) Long.parseLong(words[k]) : (Object) Integer.parseInt(words[k]);
-        }
-        return ((Number) method.invoke(desk, arguments)).longValue();
-    }
-
-    private static Method named(String name) throws NoSuchMethodException {
-        for (Method method : GrudgeDesk.class.getDeclaredMethods()) {
-            if (method.getName().equals(name)) {
-                return method;
-            }
-        }
-        throw new NoSuchMethodException(name);
+    private static long[] numbers(String words) {
+        return Stream.of(words.split(", ")).filter(word -> !word.isEmpty()).mapToLong(Long::parseLong).toArray();
     }
 
     private static void calls(List<String> lines, Set<String> called) {
-        Set<String> face = new TreeSet<>();
-        for (Method method : GrudgeDesk.class.getDeclaredMethods()) {
-            if (Modifier.isPublic(method.getModifiers())) {
-                face.add(method.getName());
-            }
-        }
         Set<String> listed = new TreeSet<>();
         for (String line : lines.subList(lines.indexOf("All calls:"), lines.indexOf("## How it works"))) {
             Matcher name = Pattern.compile("`(\\w+)`").matcher(line);
@@ -87,8 +63,8 @@ public final class ReadmeTest {
                 Check.holds(name.group(1) + " is listed once", listed.add(name.group(1)));
             }
         }
-        Check.holds("all calls are listed: " + listed, listed.equals(face));
-        Check.holds("all calls have an example: " + called, called.equals(face));
+        Check.holds("all calls are listed: " + listed, listed.equals(Calls.names()));
+        Check.holds("all calls have an example: " + called, called.equals(Calls.names()));
     }
 
     private static void tests(List<String> lines) throws IOException {

@@ -71,7 +71,8 @@ final class TermEdges {
         int[] tenths = {0, 1, 20, 21, -300, -299, -280, -279, 4000, 4001, 4020, 4021, 3700, 3701, 3720};
         for (int g = 1; g <= 14; g++) {
             Ratio want = Ratio.of(10 * g - tenths[g], 10);
-            Check.fraction("grudge of " + g, x.grudgeBy(0, 0, g, 0), x.grudgeBy(0, 0, g, 1), want.above(), want.below());
+            Check.fraction("grudge of " + g, x.grudgeBy(0, 0, g, 0), x.grudgeBy(0, 0, g, 1), want.above(),
+                    want.below());
         }
         Edges.sentence(Edges.TERMS, "SHARES are GOOD, if all together are WORTH of ALL.");
         Check.due("3721 tenths are not 15", x.shares(0, 0), 0);
@@ -87,9 +88,9 @@ final class TermEdges {
      */
     private static void stagesOnAGrid() {
         Edges.sentence(Edges.TERMS,
-                "LEVEL k is the least that the greatest GRUDGE of PARTS not FIXED yet can be by GOOD SHARES by which all "
-                        + "FIXED ones have the GRUDGES at which they were; it FIXES those of these PARTS that have just "
-                        + "this GRUDGE by all such SHARES by which the greatest of them is that;");
+                "LEVEL k is the least that the greatest GRUDGE of PARTS not FIXED yet can be by GOOD SHARES by which "
+                        + "all FIXED ones have the GRUDGES at which they were; it FIXES those of these PARTS that "
+                        + "have just this GRUDGE by all such SHARES by which the greatest of them is that;");
         Edges.sentence(Edges.TERMS, "FAIR: the one SHARES that are left.");
         Random random = new Random(12);
         for (int turn = 0; turn < 80; turn++) {
