@@ -1,4 +1,5 @@
 import java.util.ArrayList;
+import java.util.Arrays;
 import java.util.List;
 import java.util.Random;
 
@@ -20,6 +21,7 @@ final class TermEdges {
         sizes();
         firstNamed();
         heldInOrder();
+        fewerThanBefore();
     }
 
     private static void howMany() {
@@ -281,5 +283,44 @@ final class TermEdges {
         Check.row(x, 0, 1, 500, 500, 0);
         Check.due("the greatest tells", x.better(0, 0, 1, 0), 2);
         Check.due("the greatest tells", x.better(1, 0, 0, 0), 1);
+    }
+
+    /** What was worked out for more people is nothing to fewer: all is as of a new desk told the same. */
+    private static void fewerThanBefore() {
+        Edges.sentence(2, "There are n PEOPLE, all WORTHS 0: what n was.");
+        for (int more = 3; more <= 4; more++) {
+            for (int n = 2; n < more; n++) {
+                GrudgeDesk x = Check.desk(more);
+                tellAndAsk(x, more, 60);
+                Check.due("people(" + n + ")", x.people(n), more);
+                Check.row(x, 0, Arrays.copyOf(new long[] {1}, n + 1));
+                Check.due("nobody has, no grudge is above 0", x.shares(0, 0), 2);
+                String left = tellAndAsk(x, n, 1);
+                String right = tellAndAsk(Check.desk(n), n, 1);
+                Check.holds(n + " behind " + more + ": " + left + ", due is " + right, left.equals(right));
+            }
+        }
+    }
+
+    /** Worths, told shares of 0 and like weights: all that reads them, and the stages. */
+    private static String tellAndAsk(GrudgeDesk x, int n, int times) {
+        int all = (1 << n) - 1;
+        x.list(0, n + 1);
+        x.set(0, 0, 1);
+        x.list(1, all - 1);
+        for (int g = 1; g <= all; g++) {
+            x.worth(g, g * times - 12);
+            x.set(1, g - 1, times);
+        }
+        List<Long> seen = new ArrayList<>();
+        for (int part = 0; part <= 1; part++) {
+            seen.addAll(List.of(x.proof(1, 0, part), x.level(1, part), x.fair(0, part), x.surplus(0, 1, part),
+                    x.cost(part), x.byTurns(0, part), x.needs(all, 0, part)));
+        }
+        for (int answer : new int[] {x.shares(0, 0), x.judge(0, 0), x.better(0, 0, 0, 0), x.orderedBy(0, 0, all - 2),
+                x.ordered(all - 2), x.tilts(1, 0), x.proves(1, 0), x.stages(), x.fixed(1), x.is(0), x.idle()}) {
+            seen.add((long) answer);
+        }
+        return seen.toString();
     }
 }
