@@ -9,7 +9,7 @@ import java.util.regex.Pattern;
 
 /**
  * The document written down a second time, call by call, as plainly as its words
- * go and with no thought of speed; shares no line with the class. ModelTest holds
+ * go and with no thought of speed; its stages are those of Oracle. ModelTest holds
  * the two against one another. Its public methods are those of the face.
  */
 final class Model {
